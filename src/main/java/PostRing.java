@@ -1250,6 +1250,8 @@ public final class PostRing {
     private static final class Plain {
         // Far above the some k * ln(k * n) rounds that the greatest ring takes.
         private static final int MOST_ROUNDS = 1000000;
+        // Two longs have their greatest common divisor in fewer than 100 divisions.
+        private static final int MOST_DIVISIONS = 100;
 
         private Plain() {
         }
@@ -1331,6 +1333,17 @@ public final class PostRing {
             return true;
         }
 
+        static long greatestCommon(long a, long b) {
+            long greater = a;
+            long less = b;
+            for (int i = 0; i < MOST_DIVISIONS && less != 0; i++) {
+                long rest = greater % less;
+                greater = less;
+                less = rest;
+            }
+            return greater;
+        }
+
         static long neverLast(int n, int m) {
             long posts = Posts.all(n);
             for (int k = 1; k <= m && posts != 0; k++) {
@@ -1356,7 +1369,6 @@ public final class PostRing {
         private static final int MOST_ASKED = 8;
         private static final int MOST_RULE = 12;
         private static final int MOST_TURN = 6;
-        private static final int MOST_DIVISIONS = 100;
 
         final int[] posts = new int[MOST_POSTS];
         int length;
@@ -1410,19 +1422,8 @@ public final class PostRing {
         }
 
         private static long leastCommon(long a, int b) {
-            long common = greatestCommon(a, b);
+            long common = Plain.greatestCommon(a, b);
             return common < 1 ? a : a / common * b;
-        }
-
-        static long greatestCommon(long a, long b) {
-            long greater = a;
-            long less = b;
-            for (int i = 0; i < MOST_DIVISIONS && less != 0; i++) {
-                long rest = greater % less;
-                greater = less;
-                less = rest;
-            }
-            return greater;
         }
 
         void tryRules(int n) {
@@ -1524,7 +1525,7 @@ public final class PostRing {
 
         /** The upper (0) or lower part of a fraction in lowest terms. */
         static int partOf(int upper, int lower, int part) {
-            int common = (int) Order.greatestCommon(upper, lower);
+            int common = (int) Plain.greatestCommon(upper, lower);
             if (common < 1) {
                 return NONE;
             }
@@ -1553,7 +1554,9 @@ public final class PostRing {
             toldAt[count] = time;
             untoldAt[count] = NONE;
             int row = count * ROWS;
-            Arrays.fill(agreeing, row, row + ROWS, 0L);
+            for (int part = 0; part < ROWS; part++) {
+                agreeing[row + part] = 0;
+            }
             for (int k = 1; k <= MOST_FIT; k++) {
                 if (Plain.goer(n, k, i) == post) {
                     agreeing[row + k / 64] |= 1L << k % 64;

@@ -3,6 +3,8 @@ import java.util.Random;
 /** Promises 4 and 6 to 19 and 38 to 40 on rings drawn at random, against the literal model. */
 public final class ModelTest {
     private static final Check check = new Check("ModelTest");
+    // Told one ring behind the other, so that nothing of an earlier one may be left.
+    private static PostRing ring;
 
     public static void main(String[] args) {
         for (int seed = 0; seed < 400; seed++) {
@@ -15,7 +17,13 @@ public final class ModelTest {
         RandomRing drawn = new RandomRing(seed, mostPosts);
         String name = seed + " " + drawn.text + ": ";
         Model model = drawn.model;
-        PostRing ring = new PostRing();
+        if (seed % 4 == 0) {
+            ring = new PostRing();
+        } else if (seed % 4 == 2) {
+            // A fault behind much that was told leaves nothing of it.
+            Check.put(ring, "turn 2;again 3;boy 1;guard 0 to 9;rhyme a b;count 7;begin 4;left 5;stand 9;$");
+            check.due(name + "a fault", ring.ring(), -1);
+        }
         Check.put(ring, drawn.text);
         check.due(name + "ring()", ring.ring(), model.posts);
         check.due(name + "fault(0)", ring.fault(0), 0);

@@ -92,6 +92,15 @@ public final class PlainTest {
             }
             check.due("size " + one[0] + " " + one[1] + " " + seen, ring.size(one[0], one[1], seen), -1);
         }
+        // Who is last of 5001 tells a size that is too great to be asked for.
+        for (int k = 2; k < 20; k++) {
+            int beyond = Model.plain(5001, k).get(5000);
+            int seen = 0;
+            for (int n = 1; n <= 5000; n++) {
+                seen += ring.far(n, k, n) == beyond ? 1 : 0;
+            }
+            check.due("size " + k + " " + beyond + " of 5001", ring.size(k, beyond, seen), -1);
+        }
         check.due("size of 1 post", ring.size(999, 0, 0), 1);
         check.due("size last", ring.size(1, 4999, 0), 5000);
         check.due("size k 0", ring.size(0, 0, 0), -1);

@@ -156,6 +156,9 @@ public final class TextTest {
         }
         fine("guard 1 to 2;".repeat(8), 1);
         faulty("guard 1 to 2;".repeat(9), 2, 8 * 13);
+        PostRing again = Check.ringOf("guard 1 to 2;".repeat(8));
+        Check.put(again, "stand 3;" + "guard 1 to 2;".repeat(8));
+        check.due("each ring has 8 guards of its own", again.ring(), 3);
         StringBuilder persons = new StringBuilder();
         for (char name = 'a'; name < 'j'; name++) {
             persons.append("person ").append(name).append(" worth 1;");
@@ -257,7 +260,9 @@ public final class TextTest {
     private static void ringAfterFault() {
         PostRing ring = Check.ringOf("stand 5;left 2;person a worth 3;drawn 5 weight 6;count 1+2;");
         ring.go(2);
-        ring.image(1);
+        for (int box = 0; box < 3; box++) {
+            ring.image(box);
+        }
         ring.order(4);
         ring.sight(5, 1, 2);
         Check.put(ring, "stand 9;left 3;person b worth 1;person c worth 1;count 4;drawn 2 weight 2;$");
@@ -277,7 +282,9 @@ public final class TextTest {
         for (int what = 0; what < anew.length; what++) {
             check.due("about " + what + " anew", ring.about(what), anew[what]);
         }
-        check.due("boxes are empty", ring.back(1), -1);
+        for (int box = 0; box < 3; box++) {
+            check.due("boxes are empty", ring.back(box), -1);
+        }
         check.due("fault(0)", ring.fault(0), 0);
         check.due("fault(1)", ring.fault(1), -1);
     }
