@@ -236,7 +236,7 @@ public final class PostRing {
     }
 
     public int guess(int n, int what) {
-        if (!isPlain(n) || !isHalf(what)) {
+        if (!isPlain(n) || !isZeroOrOne(what)) {
             return NONE;
         }
         told.tryRules(n);
@@ -248,7 +248,7 @@ public final class PostRing {
     }
 
     public int often(int n, int m, int what) {
-        if (!isPlain(n) || !isStep(m) || !isHalf(what)) {
+        if (!isPlain(n) || !isStep(m) || !isZeroOrOne(what)) {
             return NONE;
         }
         draws.tallyUpTo(n, m);
@@ -261,7 +261,7 @@ public final class PostRing {
     }
 
     public int chance(int n, int post, int part) {
-        if (!isPlain(n) || post < 0 || post >= n || !isHalf(part) || plan.drawn == 0) {
+        if (!isPlain(n) || post < 0 || post >= n || !isZeroOrOne(part) || plan.drawn == 0) {
             return NONE;
         }
         draws.tallyDrawn(n, plan);
@@ -273,7 +273,7 @@ public final class PostRing {
     }
 
     public int expected(int n, int person, int part) {
-        if (!isChooser(n, person) || !isHalf(part)) {
+        if (!isChooser(n, person) || !isZeroOrOne(part)) {
             return NONE;
         }
         int post = draws.chosenBy(n, plan, person);
@@ -300,7 +300,7 @@ public final class PostRing {
     }
 
     public int fits(int what, int k) {
-        if (!isHalf(what)) {
+        if (!isZeroOrOne(what)) {
             return NONE;
         }
         sights.sift(k);
@@ -308,7 +308,7 @@ public final class PostRing {
     }
 
     public int ask(int n, int what, int k) {
-        if (!isPlain(n) || !isHalf(what)) {
+        if (!isPlain(n) || !isZeroOrOne(what)) {
             return NONE;
         }
         sights.sift(k);
@@ -395,7 +395,7 @@ public final class PostRing {
         return set != 0 && (set & ~Posts.all(n)) == 0;
     }
 
-    private static boolean isHalf(int what) {
+    private static boolean isZeroOrOne(int what) {
         return what == 0 || what == 1;
     }
 
@@ -816,10 +816,13 @@ public final class PostRing {
                 return fail(MISPLACED);
             }
             seen[kind - STAND] = true;
+            if (kind == COUNT) {
+                plan.forgetCount();
+            }
             tokens.advance();
             boolean fine;
             switch (kind) {
-                case COUNT: fine = readCount(); break;
+                case COUNT: fine = readEither(0); break;
                 case GUARD: fine = readGuard(); break;
                 case RHYME: fine = readRhyme(); break;
                 case PERSON: fine = readPerson(); break;
@@ -915,11 +918,6 @@ public final class PostRing {
             plan.addDrawn(number, tokens.value);
             tokens.advance();
             return true;
-        }
-
-        private boolean readCount() {
-            plan.forgetCount();
-            return readEither(0);
         }
 
         private boolean readEither(int depth) {
@@ -1220,6 +1218,10 @@ public final class PostRing {
         }
 
         int choiceFor(Plan plan, long set) {
+            // Never are more left than left tells, but for a ring that has ended at first.
+            if (Long.bitCount(set) > plan.keep && plan.posts > plan.keep) {
+                return NONE;
+            }
             for (int count = 1; count <= MOST_COUNTED; count++) {
                 if (keepsAll(plan, set, count)) {
                     return count;

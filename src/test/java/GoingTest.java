@@ -288,6 +288,14 @@ public final class GoingTest {
         check.due("by 3", many.chooses(Check.bits(1, 3)), 3);
         check.due("all are left", Check.ringOf("stand 3;left 3;").chooses(7), 1);
         check.due("it stays", ring.about(2), 2);
+        // Of 60, 55 are left, by each number other ones.
+        for (int k = 998; k <= 1000; k++) {
+            long set = (1L << 60) - 1;
+            for (int post : Model.plain(60, k).subList(0, 5)) {
+                set &= ~(1L << post);
+            }
+            check.due("by " + k, Check.ringOf("stand 60;left 55;count going;").chooses(set), k <= 999 ? k : -1);
+        }
         check.due("60 posts", Check.ringOf("stand 60;left 59;").chooses(1L << 59), 1);
     }
 

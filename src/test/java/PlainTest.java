@@ -127,6 +127,12 @@ public final class PlainTest {
         PostRing ring = new PostRing();
         check.due("keeps all 60", ring.keeps(60, (1L << 60) - 1), 1);
         check.due("first all 60", ring.first(60, (1L << 60) - 1), 1);
+        // By just this k of all up to it, so that one more is beyond what is looked at.
+        for (int k = 2999; k <= 3001; k++) {
+            long goers = setOf(Model.plain(60, k), 0, 6);
+            check.due("first by " + k, ring.first(60, goers), k <= 3000 ? k : -1);
+            check.due("keeps by " + k, ring.keeps(60, (1L << 60) - 1 & ~goers), k <= 3000 ? k : -1);
+        }
         check.due("keeps by none", ring.keeps(60, 0x3333333L << 3), -1);
         check.due("first by none", ring.first(60, 0x3333333L << 3), -1);
         for (int n : new int[] {0, -1, 61, 64, Integer.MAX_VALUE, Integer.MIN_VALUE}) {
@@ -233,9 +239,9 @@ public final class PlainTest {
     private static void guess() {
         PostRing ring = new PostRing();
         Random random = new Random(26);
-        for (int i = 0; i < 60; i++) {
+        for (int i = 0; i < 160; i++) {
             int n = 1 + random.nextInt(i % 3 == 0 ? 60 : 8);
-            int many = 1 + random.nextInt(n);
+            int many = 1 + random.nextInt(i % 2 == 0 ? n : Math.min(n, 4));
             List<Integer> order = Model.byRule(n, 1 + random.nextInt(12), 1 + random.nextInt(12), random.nextInt(7), many);
             if (random.nextInt(5) == 0) {
                 order.set(many - 1, random.nextInt(60));

@@ -157,6 +157,8 @@ public final class SightTest {
         ring.untell(0);
         ring.sight(5, 1, 2);
         check.due("ring()", ring.ring(), 1);
+        check.due("none to take back", ring.untell(0), false);
+        check.due("none to take back", ring.untell(1), false);
         check.due("no sights", ring.about(5), 0);
         check.due("the time stays", ring.about(6), 7);
         check.due("all fit", ring.fits(0, 7), 200);
