@@ -56,7 +56,6 @@ public final class PostRing {
     private static final int WORDS = 148;
     private static final int SIGNS = 149;
 
-    private final Reader reader = new Reader();
     private final Course now = new Course();
     private final Course[] boxes = new Course[BOXES];
     private final Ahead ahead = new Ahead();
@@ -65,6 +64,7 @@ public final class PostRing {
     private final Sights sights = new Sights();
     private Plan plan = new Plan();
     private Plan spare = new Plan();
+    private final Reader reader = new Reader(spare);
     private int time;
 
     public PostRing() {
@@ -773,9 +773,13 @@ public final class PostRing {
         final Tokens tokens = new Tokens();
         int fault;
         int faultPlace = NONE;
-        private Plan plan = new Plan();
+        private Plan plan;
         private final boolean[] seen = new boolean[DRAWN - STAND + 1];
         private int guards;
+
+        Reader(Plan into) {
+            plan = into;
+        }
 
         boolean read(Plan into) {
             plan = into;

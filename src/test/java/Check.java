@@ -20,6 +20,32 @@ final class Check {
         due(call, got ? 1L : 0L, want ? 1L : 0L);
     }
 
+    void same(String call, String got, String want) {
+        checks++;
+        if (!got.equals(want)) {
+            wrong++;
+            System.out.println(name + ": " + call + " answered\n  " + got + "\n  due is\n  " + want);
+        }
+    }
+
+    /** A text that is no ring, by this fault at this place. */
+    void faulty(String text, int fault, int place) {
+        PostRing ring = new PostRing();
+        put(ring, text);
+        due("ring() of '" + text + "'", ring.ring(), -1);
+        due("fault(0) of '" + text + "'", ring.fault(0), fault);
+        due("fault(1) of '" + text + "'", ring.fault(1), place);
+    }
+
+    /** A text that is a ring of so many posts. */
+    void fine(String text, int posts) {
+        PostRing ring = new PostRing();
+        put(ring, text);
+        due("ring() of '" + text + "'", ring.ring(), posts);
+        due("fault(0) of '" + text + "'", ring.fault(0), 0);
+        due("fault(1) of '" + text + "'", ring.fault(1), -1);
+    }
+
     void close() {
         System.out.println(name + ": " + checks + " checks, " + wrong + " wrong");
         if (wrong != 0 || checks == 0) {
