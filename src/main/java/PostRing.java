@@ -1222,8 +1222,8 @@ public final class PostRing {
         }
 
         int choiceFor(Plan plan, long set) {
-            // Never are more left than left tells, but for a ring that has ended at first.
-            if (Long.bitCount(set) > plan.keep && plan.posts > plan.keep) {
+            // With a set of more than left the ring has more, too, and goes on till fewer stand.
+            if (Long.bitCount(set) > plan.keep) {
                 return NONE;
             }
             for (int count = 1; count <= MOST_COUNTED; count++) {

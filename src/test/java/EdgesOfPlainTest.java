@@ -19,6 +19,7 @@ public final class EdgesOfPlainTest {
         numbersAsGreatAsCanBe();
         promise26();
         rulesAtTheirBounds();
+        allSmallOrders();
         promise27();
         promise28();
         promise29();
@@ -142,6 +143,7 @@ public final class EdgesOfPlainTest {
         PostRing ring = new PostRing();
         for (int n : new int[] {0, -1, 61, 64, 65, LEAST, GREATEST}) {
             check.due("keeps n " + n, ring.keeps(n, 1), -1);
+            check.due("keeps all of n " + n, ring.keeps(n, -1), -1);
         }
         for (long set : new long[] {0, 32, 63, 1L << 60, -1, Long.MIN_VALUE, Long.MAX_VALUE}) {
             check.due("keeps set " + set, ring.keeps(5, set), -1);
@@ -163,6 +165,7 @@ public final class EdgesOfPlainTest {
         PostRing ring = new PostRing();
         for (int n : new int[] {0, -1, 61, 64, 65, LEAST, GREATEST}) {
             check.due("first n " + n, ring.first(n, 1), -1);
+            check.due("first all of n " + n, ring.first(n, -1), -1);
         }
         for (long set : new long[] {0, 32, 63, 1L << 60, -1, Long.MIN_VALUE, Long.MAX_VALUE}) {
             check.due("first set " + set, ring.first(5, set), -1);
@@ -308,6 +311,23 @@ public final class EdgesOfPlainTest {
         }
     }
 
+    /** Each order of three or four in a small ring, so that RULES that are found later are plainer, too. */
+    private static void allSmallOrders() {
+        for (int n = 5; n <= 6; n++) {
+            for (int code = 0; code < n * n * n * n; code++) {
+                List<Integer> order = new ArrayList<>(List.of(code % n, code / n % n, code / n / n % n, code / n / n / n));
+                if (n == 5) {
+                    order.remove(3);
+                }
+                if (code < n * n * n || n == 6) {
+                    int[] want = plainest(n, order);
+                    check.due("how many " + n + " " + order, told(order).guess(n, 0), want[0]);
+                    check.due("plainest " + n + " " + order, told(order).guess(n, 1), want[1]);
+                }
+            }
+        }
+    }
+
     private static int[] plainest(int n, List<Integer> order) {
         int many = 0;
         int best = -1;
@@ -424,6 +444,7 @@ public final class EdgesOfPlainTest {
         PostRing none = new PostRing();
         check.due("nothing is drawn", none.chance(5, 0, 0), -1);
         check.due("nothing is drawn", none.chance(5, 0, 1), -1);
+        check.due("one is drawn", Check.ringOf("drawn 1 weight 1;").chance(1, 0, 0), 1);
         PostRing ring = Check.ringOf("drawn 2 weight 3;drawn 3 weight 1;drawn 5 weight 2;");
         for (int part = 0; part < 2; part++) {
             for (int n : new int[] {0, -1, 61, LEAST, GREATEST}) {
@@ -483,6 +504,7 @@ public final class EdgesOfPlainTest {
         }
         check.due("the ninth of nine", ring.choice(9, 8) >= 0, true);
         check.due("the ninth of eight", ring.choice(8, 8), -1);
+        check.due("the ninth of seven", ring.choice(7, 8), -1);
         check.due("the first of one", ring.choice(1, 0), 0);
         check.due("the second of one", ring.choice(1, 1), -1);
         check.due("n 60", ring.choice(60, 1), 59);

@@ -10,6 +10,7 @@ public final class EdgesOfSightsTest {
     public static void main(String[] args) {
         promise33();
         promise34();
+        behindRing();
         promise35();
         knownAtATime();
         promise36();
@@ -75,6 +76,35 @@ public final class EdgesOfSightsTest {
         check.due("it is so already", ring.untell(2), false);
         check.due("it stays untold from then on", ring.fits(0, 10), 200);
         check.due("before that it counts", ring.fits(0, 9), 40);
+    }
+
+    /** SIGHTS are none then; the TIME stays; behind a fault all stays. */
+    private static void behindRing() {
+        PostRing ring = new PostRing();
+        ring.later(7);
+        for (int i = 0; i < 40; i++) {
+            ring.sight(5, 1, 2);
+        }
+        ring.untell(3);
+        Check.put(ring, "$");
+        check.due("a fault", ring.ring(), -1);
+        check.due("all stays", ring.about(5) * 100 + ring.fits(0, 7), 4040);
+        check.due("ring()", ring.ring(), 1);
+        check.due("no sights", ring.about(5), 0);
+        check.due("the time stays", ring.about(6), 7);
+        check.due("nothing is known", ring.fits(0, 7) + ring.fits(0, Integer.MAX_VALUE), 400);
+        for (int sight : new int[] {0, 1, 3, 39}) {
+            check.due("none to untell", ring.untell(sight), false);
+        }
+        check.due("from 0 on again", ring.sight(5, 1, 3), 0);
+        check.due("that alone is known", ring.fits(1, 7), 4);
+        check.due("none such", ring.untell(1), false);
+        check.due("told anew it is not untold", ring.untell(0), true);
+        for (int i = 1; i < 40; i++) {
+            check.due("up to 40 again", ring.sight(5, 1, 3), i);
+        }
+        check.due("there are 40", ring.sight(5, 1, 3), -1);
+        check.due("the fourth is not untold", ring.untell(3), true);
     }
 
     private static void promise35() {

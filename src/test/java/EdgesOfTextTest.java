@@ -32,6 +32,7 @@ public final class EdgesOfTextTest {
         promise2();
         promise3();
         promise4();
+        ringsBehindOneAnother();
         promise5();
         check.close();
     }
@@ -345,6 +346,13 @@ public final class EdgesOfTextTest {
         check.faulty(forty + "<$;", 1, forty.length() + 1);
         check.faulty(forty + "+;", 2, forty.length() + 1);
         check.faulty(forty, 2, forty.length());
+        for (String joint : new String[] {"+", "-", "*", "/", " or ", " and "}) {
+            String joined = "count 1" + (joint + "1").repeat(39);
+            check.due("40 units joined by" + joint, Check.ringOf(joined + ";").about(9), 40);
+            check.faulty(joined + joint + "1;", 2, joined.length() + joint.length());
+            check.faulty(joined + joint + "(1);", 2, joined.length() + joint.length());
+            check.faulty(joined + joint + "$", 1, joined.length() + joint.length());
+        }
         String nested = "count " + "(1+".repeat(6) + "1" + ")".repeat(6) + "+1".repeat(27);
         check.due("6 units ( e ), 6 ones in them, 1 within, 27 behind", Check.ringOf(nested + ";").about(9), 40);
         check.faulty(nested + "+1;", 2, nested.length() + 1);
@@ -550,11 +558,27 @@ public final class EdgesOfTextTest {
         Check.put(ring, "stand 12;");
         check.due("refused", ring.end(10) + ring.end(-1), -2);
         check.due("the text is whole", ring.ring(), 12);
+        // What was cut off is not looked at: neither a letter behind an N, nor more of a word, of an N.
+        cutTo("stand 5a;", 7, 2, 7);
+        cutTo("stand 512;", 8, 2, 8);
+        cutTo("standing 5;", 5, 2, 5);
+        cutTo("stand 5;$", 8, 0, -1);
+        cutTo("rhyme abcdefghi;", 14, 2, 14);
+        cutTo("stand 61;", 7, 2, 7);
         Check.put(ring, " ".repeat(1200));
         check.due("end(1201)", ring.end(1201), -1);
         check.due("end(1200)", ring.end(1200), 1200);
         check.due("end(0)", ring.end(0), 0);
         check.due("about(7)", ring.about(7), 0);
+    }
+
+    private static void cutTo(String text, int n, int fault, int place) {
+        PostRing ring = new PostRing();
+        Check.put(ring, text);
+        check.due("end(" + n + ") of '" + text + "'", ring.end(n), n);
+        check.due("ring() of '" + text + "' cut", ring.ring() == -1, fault != 0);
+        check.due("fault(0) of '" + text + "' cut", ring.fault(0), fault);
+        check.due("fault(1) of '" + text + "' cut", ring.fault(1), place);
     }
 
     private static PostRing busy() {
@@ -613,6 +637,40 @@ public final class EdgesOfTextTest {
         check.due("ring()", twice.ring(), 5);
         check.due("no goings", twice.about(2), 0);
         check.due("post 2 stands again", twice.post(2, 0), 1);
+    }
+
+    /** Of what an earlier text told nothing is left, however many came between, and whether they had a fault. */
+    private static void ringsBehindOneAnother() {
+        String full = "begin 3;left 2;count not 1;turn 1;again 2;boy 4;guard 0 to 8;rhyme a bb;person p worth 5;person q worth 6;"
+            + "drawn 3 weight 4;drawn 4 weight 5;stand 9;";
+        String[] bare = {"stand 9;", "stand 9;count words*3+signs+2;", "stand 9;person q worth 1;drawn 4 weight 1;",
+            "stand 9;person q worth 1;drawn 5 weight 1;", "stand 9;guard 1 to 1;"};
+        for (String text : bare) {
+            String want = Observed.asked(Check.ringOf(text));
+            for (int between = 0; between < 4; between++) {
+                for (String other : new String[] {"stand 2;", full + "$"}) {
+                    PostRing ring = Check.ringOf(full);
+                    for (int i = 0; i < between; i++) {
+                        Check.put(ring, other);
+                        ring.ring();
+                    }
+                    Check.put(ring, text);
+                    check.due("ring() of '" + text + "'", ring.ring(), 9);
+                    check.same("'" + text + "' behind " + between + " others", Observed.asked(ring), want);
+                }
+            }
+        }
+        PostRing again = new PostRing();
+        for (int i = 0; i < 4; i++) {
+            Check.put(again, full);
+            check.due("the same text once more", again.ring(), 9);
+            check.due("its persons and drawn ones", again.about(3) * 10 + again.about(4), 22);
+        }
+        for (int i = 0; i < 4; i++) {
+            Check.put(again, "guard 1 to 2;".repeat(8) + "rhyme " + "a ".repeat(24) + ";count 1" + "+1".repeat(39) + ";");
+            check.due("as much as may be, once more", again.ring(), 1);
+            check.due("of 40 units", again.about(9), 40);
+        }
     }
 
     private static void promise5() {

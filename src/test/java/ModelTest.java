@@ -17,9 +17,10 @@ public final class ModelTest {
         RandomRing drawn = new RandomRing(seed, mostPosts);
         String name = seed + " " + drawn.text + ": ";
         Model model = drawn.model;
-        if (seed % 4 == 0) {
+        // Two rings an object, since it is used for no more than 512 calls.
+        if (seed % 2 == 0) {
             ring = new PostRing();
-        } else if (seed % 4 == 2) {
+        } else if (seed % 4 == 1) {
             // A fault behind much that was told leaves nothing of it.
             Check.put(ring, "turn 2;again 3;boy 1;guard 0 to 9;rhyme a b;count 7;begin 4;left 5;stand 9;$");
             check.due(name + "a fault", ring.ring(), -1);
@@ -32,7 +33,7 @@ public final class ModelTest {
         Model.State state = model.start();
         Model.State[] boxes = new Model.State[3];
         for (int round = 0; round < 5; round++) {
-            compareState(name, ring, model, state);
+            compareState(name, ring, model, state, random);
             compareAhead(name, ring, model, state, random);
             int box = random.nextInt(3);
             if (random.nextInt(3) == 0) {
@@ -47,25 +48,27 @@ public final class ModelTest {
                 state = boxes[box] == null ? state : boxes[box].copy();
             }
         }
-        compareState(name, ring, model, state);
+        compareState(name, ring, model, state, random);
         compareFirst(name, ring, model, random);
     }
 
-    private static void compareState(String name, PostRing ring, Model model, Model.State state) {
+    private static void compareState(String name, PostRing ring, Model model, Model.State state, Random random) {
         check.due(name + "about(1)", ring.about(1), state.here());
         check.due(name + "about(2)", ring.about(2), state.goings);
         check.due(name + "about(10)", ring.about(10), state.boyAt[0]);
         check.due(name + "about(11)", ring.about(11), state.boyAt[1]);
         check.due(name + "about(12)", ring.about(12), state.turned ? 1 : 0);
-        for (int post = 0; post < model.posts; post++) {
+        int from = random.nextInt(model.posts);
+        for (int post = from; post < model.posts && post < from + 5; post++) {
             check.due(name + "post 0", ring.post(post, 0), state.stands[post] ? 1 : 0);
             check.due(name + "post 1", ring.post(post, 1), state.hits[post]);
             check.due(name + "post 2", ring.post(post, 2), state.wentIn[post]);
         }
-        for (int i = 0; i < state.went.size(); i++) {
+        int gone = state.went.size();
+        for (int i = Math.max(0, gone - 4); i < gone; i++) {
             check.due(name + "went", ring.went(i), state.went.get(i));
         }
-        check.due(name + "went", ring.went(state.went.size()), -1);
+        check.due(name + "went", ring.went(gone), -1);
     }
 
     private static void compareAhead(String name, PostRing ring, Model model, Model.State state, Random random) {
